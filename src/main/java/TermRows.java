@@ -1368,7 +1368,9 @@ public final class TermRows {
             if (text.take('>')) {
                 return 1;
             }
-            text.expect('=');
+            if (!text.take('=')) {
+                text.fail(MISPLACED);
+            }
             return 0;
         }
 
