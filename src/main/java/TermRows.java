@@ -539,15 +539,13 @@ public final class TermRows {
         return k;
     }
 
-    /** Whether the TERMS of one from k on are those of two from l on, as far as both are known. */
-    private static boolean runAlike(Row one, int k, Row two, int l) {
-        int length = Math.min(one.known - k, two.known - l);
-        for (int i = 0; i < length; i++) {
-            if (one.termAt(k + i) != two.termAt(l + i)) {
-                return false;
-            }
+    /** The least k from which on the TERMS of one are those of two from k less shift on; both are CUT. */
+    private static int alikeFrom(Row one, Row two, int shift) {
+        int k = Math.min(MOST_TERMS, MOST_TERMS + shift);
+        while (k > 0 && k > shift && one.termAt(k - 1) == two.termAt(k - 1 - shift)) {
+            k--;
         }
-        return true;
+        return k;
     }
 
     /** Where and with how many a row comes AGAIN, as a pair; NONE. */
@@ -555,14 +553,16 @@ public final class TermRows {
         if (row.stop != CUT) {
             return NONE;
         }
-        for (int t = 0; t < MOST_TERMS; t++) {
-            for (int d = 1; t + 2 * d <= MOST_TERMS; d++) {
-                if (runAlike(row, t, row, t + d)) {
-                    return t * PAIR + d;
-                }
+        int best = MOST_TERMS;
+        int period = 0;
+        for (int d = 1; 2 * d <= MOST_TERMS; d++) {
+            int t = alikeFrom(row, row, -d);
+            if (t + 2 * d <= MOST_TERMS && t < best) {
+                best = t;
+                period = d;
             }
         }
-        return NONE;
+        return period == 0 ? NONE : best * PAIR + period;
     }
 
     /** From where on two rows have TAILS ALIKE, as a pair; NONE. */
@@ -571,14 +571,18 @@ public final class TermRows {
             return NONE;
         }
         int latest = MOST_TERMS - LEAST_TAIL;
-        for (int together = 0; together <= 2 * latest; together++) {
-            for (int k = Math.max(0, together - latest); k <= together && k <= latest; k++) {
-                if (runAlike(one, k, two, together - k)) {
-                    return k * PAIR + together - k;
-                }
+        int best = NONE;
+        int together = 2 * latest + 1;
+        for (int shift = -latest; shift <= latest; shift++) {
+            int k = alikeFrom(one, two, shift);
+            int l = k - shift;
+            boolean less = k + l < together || (k + l == together && k < best / PAIR);
+            if (k <= latest && l <= latest && less) {
+                together = k + l;
+                best = k * PAIR + l;
             }
         }
-        return NONE;
+        return best;
     }
 
     private static int partOfPair(int pair, int part) {

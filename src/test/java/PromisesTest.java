@@ -24,6 +24,8 @@ public final class PromisesTest {
         of();
         greatestTerm();
         sumWraps();
+        justWithin();
+        farBeyond();
         term();
         read();
         spentAndStuck();
@@ -104,7 +106,9 @@ public final class PromisesTest {
         toldLength(x, 60, 0, 60);
         toldLength(x, 61, 0, 60);
         toldLength(x, 99, 0, 60);
-        Check.tell(x, 1, "[5]");
+        Check.due("200 tokens", 99, Check.tell(x, 1, "[-1" + ",1".repeat(98) + "]"));
+        Check.due("200 tokens", -11, Check.tell(x, 1, "[-1" + ",1".repeat(98) + ","));
+        Check.due("200 tokens", 200, x.fault());
         Check.feed(x, "[1;2,3] and more");
         Check.due("the first bytes alone", 3, x.told(1, 7));
         Check.due("the tape is empty then", 0, x.count(1));
@@ -258,6 +262,8 @@ public final class PromisesTest {
         askFault("many not", 1, 8);
         askFault("many -1 = 1", 1, 5);
         askFault("many terms = 1", 1, 5);
+        askFault("many termz = 1", 1, 5);
+        askFault("many aterm = 1", 1, 5);
         askFault("many term = 1 \t", 1, 14);
         askFault("many term = 10000", 2, 12);
         askFault("many 99999999999999999999 = 1", 2, 5);
@@ -575,6 +581,49 @@ public final class PromisesTest {
         Check.due("one that is beyond isn't the nearest", 1, x.nearest(8, Integer.MAX_VALUE));
     }
 
+    /** Ones and what follows: rows whose last CONVERGENT has just 10 to the 15, or 1 more, above. */
+    private static void justWithin() {
+        String ones = ",1,1,1,1,1,1,1,1,1,1,1,1,1,1,1,1,1,1,1,1,1,1,1,1,1,1,1,1,1,1";
+        String within = ones + ",2,30,2,3,12,1,1,1,1,1,10,1,63,1,3]";
+        String beyond = ones + ",1,1,1,5,10,1,4,2,10,2,3,17,1,7,1,4]";
+        limit("[1;1,1" + within, 1000000000000000L, 1);
+        limit("[-2;2" + within, -1000000000000000L, 1);
+        limit("[1;1,1" + beyond, -1, 2);
+        limit("[-2;2" + beyond, -1, 2);
+    }
+
+    /** A SINGLE 0 0 1 0 has the CONVERGENTS' numbers among its own and ends with them. */
+    private static void limit(String text, long above, int stop) {
+        TermRows x = new TermRows();
+        Check.due("told " + text, true, Check.tell(x, 0, text) > 0);
+        int last = x.of(0, 1) - 1;
+        Check.due("above of " + text, above, x.convergent(0, last, false));
+        x.single(1, 0, 0, 0, 1, 0);
+        Check.due("numbers of " + text, stop, x.of(1, 2));
+        Check.due("all read of " + text, last + 1, x.of(1, 3));
+    }
+
+    /** Numbers whose product a long would wrap to one that looks lawful. */
+    private static void farBeyond() {
+        TermRows x = new TermRows();
+        x.fraction(0, 1000, 1);
+        x.fraction(1, 9999, 1);
+        x.fraction(2, 1845, 1);
+        x.join(3, 2, 0, 0);
+        x.join(4, 2, 1, 2);
+        x.single(5, 4, 0, 1, 1, 0);
+        x.single(6, 3, 1, -77, 0, 1);
+        x.join(7, 0, 6, 5);
+        x.single(8, 7, 0, 1, 1, 0);
+        x.join(9, 0, 3, 8);
+        terms("great terms", x, 9, 1000000, 999923, 18448155);
+        Check.due("within", 999923000001L, x.convergent(9, 1, false));
+        Check.due("far beyond above", -1, x.convergent(9, 2, false));
+        Check.due("far beyond above, none below", -1, x.convergent(9, 2, true));
+        Check.due("far beyond when it reads", -1000000000L, x.would(9, 1, 0, 0, 1, 0));
+        Check.due("far beyond when it reads", 0, x.would(9, 0, 0, 0, 1, 0));
+    }
+
     private static void term() {
         TermRows x = new TermRows();
         x.fraction(0, 415, 93);
@@ -831,6 +880,9 @@ public final class PromisesTest {
         tailed(x, 4, 5, 40, 1);
         Check.tell(x, 4, "[1;" + rising(1, 40) + ",(50)]");
         tailed(x, 4, 5, -1, -1);
+        Check.tell(x, 4, "[1;" + rising(1, 39) + ",(50)]");
+        Check.tell(x, 5, "[2;" + rising(101, 139) + ",(50)]");
+        tailed(x, 4, 5, 40, 40);
         x.fraction(6, 1, 2);
         tailed(x, 6, 6, -1, -1);
         tailed(x, 0, 6, -1, -1);

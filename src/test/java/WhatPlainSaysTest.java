@@ -8,10 +8,13 @@ public final class WhatPlainSaysTest {
     private final TermRows rows = new TermRows();
     private final Plain plain = new Plain();
     private final int seed;
+    // Every third run has told rows of ones and twos above all, so that many are alike in parts.
+    private final boolean narrow;
 
     private WhatPlainSaysTest(int seed) {
         this.seed = seed;
         random = new Random(seed);
+        narrow = seed % 3 == 0;
     }
 
     public static void main(String[] args) {
@@ -70,7 +73,9 @@ public final class WhatPlainSaysTest {
 
     private void oneCall(int i) {
         int kind = below(100);
-        if (kind < 30) {
+        if (narrow && kind < 20) {
+            tellNarrow();
+        } else if (kind < 30) {
             change();
         } else if (kind < 40) {
             text();
@@ -79,6 +84,27 @@ public final class WhatPlainSaysTest {
         } else {
             question(below(18), row(), row(), place());
         }
+    }
+
+    private void tellNarrow() {
+        StringBuilder text = new StringBuilder("[").append(below(3));
+        int ahead = below(3) == 0 ? below(50) : below(5);
+        for (int i = 0; i < ahead; i++) {
+            text.append(',').append(below(6) == 0 ? 2 : 1);
+        }
+        text.append(",(");
+        int period = below(3) == 0 ? between(1, 34) : between(1, 4);
+        for (int i = 0; i < period; i++) {
+            text.append(i == 0 ? "" : ",").append(below(4) == 0 ? 2 : 1);
+        }
+        tellBoth(row(), text.append(")]").toString());
+        question(pick(8, 9, 10, 11, 16), row(), row(), 0);
+    }
+
+    private void tellBoth(int row, String text) {
+        both("ask to empty the tape", () -> rows.ask(0, 0), () -> plain.ask(0, 0));
+        feed(text);
+        both("told " + row + " " + text, () -> rows.told(row, text.length()), () -> plain.told(row, text.length()));
     }
 
     private void change() {
