@@ -565,7 +565,10 @@ public final class TermRows {
         return period == 0 ? NONE : best * PAIR + period;
     }
 
-    /** From where on two rows have TAILS ALIKE, as a pair; NONE. */
+    /**
+     * From where on two rows have TAILS ALIKE, as a pair; NONE. Of two shifts with as much together the
+     * lesser one has the lesser k, and it comes first.
+     */
     private static int tailsAlike(Row one, Row two) {
         if (one.stop != CUT || two.stop != CUT) {
             return NONE;
@@ -576,8 +579,7 @@ public final class TermRows {
         for (int shift = -latest; shift <= latest; shift++) {
             int k = alikeFrom(one, two, shift);
             int l = k - shift;
-            boolean less = k + l < together || (k + l == together && k < best / PAIR);
-            if (k <= latest && l <= latest && less) {
+            if (k <= latest && l <= latest && k + l < together) {
                 together = k + l;
                 best = k * PAIR + l;
             }
@@ -724,6 +726,9 @@ public final class TermRows {
         /** Keeps what the row is, and gives it the slot's spare one instead. */
         void keep(Row row) {
             int slot = (oldest + size) & MASK;
+            if (slot >= changed.length) {
+                return;
+            }
             if (size == MOST_ACTS) {
                 oldest = (oldest + 1) & MASK;
             } else {
@@ -740,7 +745,7 @@ public final class TermRows {
             }
             size--;
             int slot = (oldest + size) & MASK;
-            Row row = changed[slot];
+            Row row = slot < changed.length ? changed[slot] : null;
             if (row != null) {
                 swap(row, slot);
             }
@@ -1059,20 +1064,25 @@ public final class TermRows {
             tokens = 0;
             next = 0;
             int at = 0;
-            while (at < n) {
-                int sign = byteAt(at);
-                if (isFigure(sign)) {
-                    at = scanFigures(at, n);
-                } else if (isLetter(sign)) {
-                    at = scanWord(at, n);
-                } else {
-                    if (sign != ' ' && sign != '\n') {
-                        addToken(sign, 0, at);
-                    }
-                    at++;
-                }
+            for (int i = 0; i < MOST_BYTES && at < n; i++) {
+                at = scanNext(at, n);
             }
             addToken(END, 0, n);
+        }
+
+        /** Takes the TOKEN or blank that begins there; the place behind it. */
+        private int scanNext(int at, int n) {
+            int sign = byteAt(at);
+            if (isFigure(sign)) {
+                return scanFigures(at, n);
+            }
+            if (isLetter(sign)) {
+                return scanWord(at, n);
+            }
+            if (sign != ' ' && sign != '\n') {
+                addToken(sign, 0, at);
+            }
+            return at + 1;
         }
 
         /** However many figures come, the value stays one above the greatest lawful number. */

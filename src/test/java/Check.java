@@ -10,8 +10,14 @@ final class Check {
     }
 
     private static int wrong;
+    private static String about = "";
 
     private Check() {
+    }
+
+    /** What the next answers are about: it stands ahead of all that is printed of them. */
+    static void about(String what) {
+        about = what.isEmpty() ? "" : what + ": ";
     }
 
     /** A call's answer; NO_SUCH or ILLEGAL, if it throws that. Nothing else is caught. */
@@ -40,7 +46,7 @@ final class Check {
     static void due(String what, long want, long got) {
         if (got != want) {
             wrong++;
-            System.out.println(what + ": answered " + named(got) + ", due is " + named(want));
+            System.out.println(about + what + ": answered " + named(got) + ", due is " + named(want));
         }
     }
 
@@ -51,7 +57,7 @@ final class Check {
     static void due(String what, String want, String got) {
         if (!got.equals(want)) {
             wrong++;
-            System.out.println(what + ": answered " + got + ", due is " + want);
+            System.out.println(about + what + ": answered " + got + ", due is " + want);
         }
     }
 

@@ -25,7 +25,6 @@ public final class PromisesTest {
         greatestTerm();
         sumWraps();
         justWithin();
-        farBeyond();
         term();
         read();
         spentAndStuck();
@@ -44,18 +43,10 @@ public final class PromisesTest {
         Check.end();
     }
 
-    private static void terms(String what, TermRows x, int row, int... want) {
-        Check.due(what + ", how many", want.length, x.of(row, 1));
-        for (int k = 0; k < want.length; k++) {
-            int at = k;
-            Check.due(what + ", term " + k, want[k], () -> x.term(row, at));
-        }
-    }
-
     private static void newObject() {
         TermRows x = new TermRows();
         for (int row = 0; row < 10; row++) {
-            terms("new row " + row, x, row, 0);
+            Edges.terms("new row " + row, x, row, 0);
             Check.due("new row is a fraction", 0, x.of(row, 0));
             Check.due("new row ends", 1, x.of(row, 2));
         }
@@ -78,7 +69,7 @@ public final class PromisesTest {
         Check.due("order of bytes", 20, x.feed('[' << 24 | '1' << 16 | ';' << 8 | '2', ',' << 24 | '3' << 16 | ',' << 8 | '4',
             ',' << 24 | '5' << 16 | ',' << 8 | '6', ',' << 24 | '7' << 16 | ',' << 8 | '8', ',' << 24 | '9' << 16 | ']' << 8 | ' '));
         Check.due("told", 9, x.told(0, 20));
-        terms("in the order of bytes", x, 0, 1, 2, 3, 4, 5, 6, 7, 8, 9);
+        Edges.terms("in the order of bytes", x, 0, 1, 2, 3, 4, 5, 6, 7, 8, 9);
         Check.due("bytes of 128 on", 20, x.feed(-1, -1, -1, -1, -1));
         Check.due("are told as bytes", -11, x.told(0, 1));
         Check.due("at their place", 0, x.fault());
@@ -94,14 +85,14 @@ public final class PromisesTest {
             Check.due("comes again at " + k, k % 2 == 0 ? 3 : 4, x.term(0, k));
         }
         Check.due("blanks, marks, zeros ahead", 4, Check.tell(x, 1, " [\n- 007 , 1;2\n;0003 ] \n"));
-        terms("blanks, marks, zeros ahead", x, 1, -7, 1, 2, 3);
+        Edges.terms("blanks, marks, zeros ahead", x, 1, -7, 1, 2, 3);
         Check.due("it ends", 1, x.of(1, 2));
         Check.due("no whole below 0", 1, Check.tell(x, 1, "[-0]"));
-        terms("no whole below 0", x, 1, 0);
+        Edges.terms("no whole below 0", x, 1, 0);
         Check.due("edges", 2, Check.tell(x, 1, "[-9999;9999]"));
-        terms("edges", x, 1, -9999, 9999);
+        Edges.terms("edges", x, 1, -9999, 9999);
         Check.due("edges", 2, Check.tell(x, 1, "[9999,1]"));
-        terms("a last 1 stays", x, 1, 9999, 1);
+        Edges.terms("a last 1 stays", x, 1, 9999, 1);
         toldLength(x, 59, 1, 59);
         toldLength(x, 60, 0, 60);
         toldLength(x, 61, 0, 60);
@@ -297,19 +288,19 @@ public final class PromisesTest {
     private static void fraction() {
         TermRows x = new TermRows();
         Check.due("415 by 93", true, x.fraction(0, 415, 93));
-        terms("415 by 93", x, 0, 4, 2, 6, 7);
+        Edges.terms("415 by 93", x, 0, 4, 2, 6, 7);
         x.fraction(0, -7, 3);
-        terms("-7 by 3", x, 0, -3, 1, 2);
+        Edges.terms("-7 by 3", x, 0, -3, 1, 2);
         x.fraction(0, -9999, 1);
-        terms("-9999 by 1", x, 0, -9999);
+        Edges.terms("-9999 by 1", x, 0, -9999);
         x.fraction(0, 1, 9999);
-        terms("1 by 9999", x, 0, 0, 9999);
+        Edges.terms("1 by 9999", x, 0, 0, 9999);
         x.fraction(0, -1, 9999);
-        terms("-1 by 9999", x, 0, -1, 1, 9998);
+        Edges.terms("-1 by 9999", x, 0, -1, 1, 9998);
         x.fraction(0, 6, 4);
-        terms("6 by 4", x, 0, 1, 2);
+        Edges.terms("6 by 4", x, 0, 1, 2);
         x.fraction(0, 6765, 4181);
-        terms("6765 by 4181", x, 0, 1, 1, 1, 1, 1, 1, 1, 1, 1, 1, 1, 1, 1, 1, 1, 1, 1, 2);
+        Edges.terms("6765 by 4181", x, 0, 1, 1, 1, 1, 1, 1, 1, 1, 1, 1, 1, 1, 1, 1, 1, 1, 1, 2);
         Check.due("it ends", 1, x.of(0, 2));
         int acts = x.count(0);
         for (int row : BAD_ROWS) {
@@ -322,7 +313,7 @@ public final class PromisesTest {
         Check.due("q", false, x.fraction(0, 1, -1));
         Check.due("q", false, x.fraction(0, 1, 10000));
         Check.due("nothing changed", acts, x.count(0));
-        terms("nothing changed", x, 0, 1, 1, 1, 1, 1, 1, 1, 1, 1, 1, 1, 1, 1, 1, 1, 1, 1, 2);
+        Edges.terms("nothing changed", x, 0, 1, 1, 1, 1, 1, 1, 1, 1, 1, 1, 1, 1, 1, 1, 1, 1, 1, 2);
     }
 
     private static void rooted(int p, int d, int q, int... first) {
@@ -349,14 +340,14 @@ public final class PromisesTest {
         rooted(999, 9998, -99, -12, 1, 8);
         TermRows x = new TermRows();
         x.root(0, 3, 9, 2);
-        terms("a square", x, 0, 3);
+        Edges.terms("a square", x, 0, 3);
         Check.due("ends", 1, x.of(0, 2));
         x.root(0, 1, 4, -7);
-        terms("3 by -7", x, 0, -1, 1, 1, 3);
+        Edges.terms("3 by -7", x, 0, -1, 1, 1, 3);
         x.root(0, -5, 0, -3);
-        terms("the root of 0", x, 0, 1, 1, 2);
+        Edges.terms("the root of 0", x, 0, 1, 1, 2);
         x.root(0, -1, 1, 1);
-        terms("nothing at all", x, 0, 0);
+        Edges.terms("nothing at all", x, 0, 0);
         int acts = x.count(0);
         for (int row : BAD_ROWS) {
             Check.due("root of row " + row, false, x.root(row, 1, 1, 1));
@@ -373,23 +364,23 @@ public final class PromisesTest {
         TermRows x = new TermRows();
         x.fraction(0, 415, 93);
         Check.due("half", true, x.single(1, 0, 1, 0, 0, 2));
-        terms("415 by 186", x, 1, 2, 4, 3, 14);
+        Edges.terms("415 by 186", x, 1, 2, 4, 3, 14);
         x.single(1, 0, 0, 1, 1, 0);
-        terms("93 by 415", x, 1, 0, 4, 2, 6, 7);
+        Edges.terms("93 by 415", x, 1, 0, 4, 2, 6, 7);
         x.single(1, 0, -1, 0, 0, 1);
-        terms("-415 by 93", x, 1, -5, 1, 1, 6, 7);
+        Edges.terms("-415 by 93", x, 1, -5, 1, 1, 6, 7);
         x.single(1, 0, 1, 0, 0, -1);
-        terms("-415 by 93", x, 1, -5, 1, 1, 6, 7);
+        Edges.terms("-415 by 93", x, 1, -5, 1, 1, 6, 7);
         x.single(1, 0, 0, 0, 0, 5);
-        terms("0", x, 1, 0);
+        Edges.terms("0", x, 1, 0);
         x.single(1, 0, 93, -415, 1, 0);
-        terms("0 above", x, 1, 0);
+        Edges.terms("0 above", x, 1, 0);
         x.single(1, 0, 1, 0, 93, -415);
-        terms("0 below", x, 1);
+        Edges.terms("0 below", x, 1);
         Check.due("0 below ends", 1, x.of(1, 2));
         Check.tell(x, 0, "[2;1]");
         x.single(1, 0, 1, 0, 0, 1);
-        terms("a last 1 is reckoned away", x, 1, 3);
+        Edges.terms("a last 1 is reckoned away", x, 1, 3);
         x.root(0, 0, 2, 1);
         x.single(1, 0, 1, 1, 0, 1);
         Check.due("1 and root of 2: first", 2, x.term(1, 0));
@@ -417,25 +408,25 @@ public final class PromisesTest {
         x.fraction(0, 415, 93);
         x.fraction(1, -7, 3);
         Check.due("and", true, x.join(2, 0, 0, 1));
-        terms("198 by 93", x, 2, 2, 7, 1, 3);
+        Edges.terms("198 by 93", x, 2, 2, 7, 1, 3);
         x.join(2, 1, 0, 1);
-        terms("632 by 93", x, 2, 6, 1, 3, 1, 8, 2);
+        Edges.terms("632 by 93", x, 2, 6, 1, 3, 1, 8, 2);
         x.join(2, 2, 0, 1);
-        terms("-2905 by 279", x, 2, -11, 1, 1, 2, 2, 1, 7, 2);
+        Edges.terms("-2905 by 279", x, 2, -11, 1, 1, 2, 2, 1, 7, 2);
         x.join(2, 3, 0, 1);
-        terms("1245 by -651", x, 2, -2, 11, 2, 2, 1, 2);
+        Edges.terms("1245 by -651", x, 2, -2, 11, 2, 2, 1, 2);
         Check.due("it is double", 4, x.of(2, 0));
         Check.due("it ends", 1, x.of(2, 2));
         x.join(2, 1, 0, 0);
-        terms("nothing left", x, 2, 0);
+        Edges.terms("nothing left", x, 2, 0);
         x.join(3, 3, 0, 2);
-        terms("by nothing", x, 3);
+        Edges.terms("by nothing", x, 3);
         Check.due("by nothing ends", 1, x.of(3, 2));
         x.root(0, 0, 2, 1);
         x.root(1, 0, 3, 1);
         x.join(2, 0, 0, 1);
         int[] first = {3, 6, 1, 5, 7, 1, 1, 4, 1, 38, 43, 1, 3, 2, 1, 1, 1, 1, 2, 4, 1};
-        terms("root of 2 and root of 3", x, 2, first);
+        Edges.terms("root of 2 and root of 3", x, 2, first);
         int acts = x.count(0);
         for (int row : BAD_ROWS) {
             Check.due("join of row " + row, false, x.join(row, 0, 0, 0) || x.join(1, 0, row, 0) || x.join(1, 0, 0, row));
@@ -460,19 +451,19 @@ public final class PromisesTest {
         x.single(3, 0, 2, 0, 0, 1);
         x.join(5, 2, 3, 0);
         Check.tell(x, 0, "[3;2]");
-        terms("7 by 2, doubled, times itself", x, 5, 24, 2);
+        Edges.terms("7 by 2, doubled, times itself", x, 5, 24, 2);
         Check.due("the same again is an act, too", true, x.single(3, 0, 2, 0, 0, 1));
         Check.due("undo", 3, x.undo());
         Check.due("undo of told", 2, x.undo());
-        terms("what is made of it changes with it", x, 5, 32);
+        Edges.terms("what is made of it changes with it", x, 5, 32);
         x.root(0, 0, 2, 1);
         Check.due("cut", 0, x.of(0, 2));
         Check.due("undo of root", 2, x.undo());
-        terms("as it was", x, 5, 32);
+        Edges.terms("as it was", x, 5, 32);
         Check.due("undo of join", 1, x.undo());
-        terms("0 by 1 again", x, 5, 0);
+        Edges.terms("0 by 1 again", x, 5, 0);
         Check.due("undo of single", 0, x.undo());
-        terms("0 by 1 again", x, 3, 0);
+        Edges.terms("0 by 1 again", x, 3, 0);
         Check.tell(x, 1, "[1;(2,3)]");
         Check.tell(x, 1, "[4;5,6]");
         Check.tell(x, 1, "[1;0]");
@@ -528,35 +519,26 @@ public final class PromisesTest {
         Check.due("no such fact", NO_SUCH, () -> x.of(0, -1));
     }
 
-    /** Rows 0 to 2 become 1000, 10 to the 6, 10 to the 9. */
-    private static void tellGreatRows(TermRows x) {
-        x.fraction(0, 1000, 1);
-        x.join(1, 2, 0, 0);
-        x.join(2, 2, 1, 0);
-    }
-
     private static void greatestTerm() {
-        TermRows x = new TermRows();
-        tellGreatRows(x);
-        terms("10 to the 9", x, 2, 1000000000);
+        TermRows x = Edges.thousands();
         x.single(3, 2, 1, 1, 0, 1);
-        terms("beyond", x, 3);
+        Edges.terms("beyond", x, 3);
         Check.due("beyond is spent", 2, x.of(3, 2));
         x.single(3, 2, -1, 0, 0, 1);
-        terms("-10 to the 9", x, 3, -1000000000);
+        Edges.terms("-10 to the 9", x, 3, -1000000000);
         x.single(3, 2, -1, -1, 0, 1);
-        terms("beyond", x, 3);
+        Edges.terms("beyond", x, 3);
         Check.due("beyond is spent", 2, x.of(3, 2));
         Check.due("read counts", 1, x.of(3, 3));
         x.single(3, 2, 999, 0, 0, 999);
-        terms("above of 999 times 10 to the 9", x, 3, 1000000000);
+        Edges.terms("above of 999 times 10 to the 9", x, 3, 1000000000);
         x.single(3, 1, 999, 0, 0, 1);
-        terms("999 times 10 to the 6", x, 3, 999000000);
+        Edges.terms("999 times 10 to the 6", x, 3, 999000000);
         x.join(4, 2, 2, 1);
-        terms("a term of 10 to the 15", x, 4);
+        Edges.terms("a term of 10 to the 15", x, 4);
         Check.due("is spent", 2, x.of(4, 2));
         x.join(5, 3, 2, 1);
-        terms("10 to the 9 by 10 to the 6", x, 5, 1000);
+        Edges.terms("10 to the 9 by 10 to the 6", x, 5, 1000);
         x.join(6, 2, 2, 2);
         Check.due("10 to the 18 is spent", 2, x.of(6, 2));
         Check.due("when it has read both", 2, x.of(6, 3));
@@ -564,15 +546,14 @@ public final class PromisesTest {
 
     /** Three terms of 10 to the 9: more than an int holds. */
     private static void sumWraps() {
-        TermRows x = new TermRows();
-        tellGreatRows(x);
+        TermRows x = Edges.thousands();
         x.single(3, 2, 2, 1, 1, 0);
         x.single(4, 3, 0, 1, 1, 0);
         x.join(5, 0, 2, 4);
         x.single(6, 5, 2, 1, 1, 0);
         x.single(7, 6, 0, 1, 1, 0);
         x.join(8, 0, 2, 7);
-        terms("great terms", x, 8, 1000000000, 2, 1000000000, 2, 1000000000);
+        Edges.terms("great terms", x, 8, 1000000000, 2, 1000000000, 2, 1000000000);
         Check.due("the sum wraps", -1294967292, x.of(8, 5));
         asked(x, 8, "many sum > 9999", 5);
         Check.due("said", "[1000000000;2,1000000000,2,1000000000]", Check.say(x, 8, 60));
@@ -601,27 +582,6 @@ public final class PromisesTest {
         x.single(1, 0, 0, 0, 1, 0);
         Check.due("numbers of " + text, stop, x.of(1, 2));
         Check.due("all read of " + text, last + 1, x.of(1, 3));
-    }
-
-    /** Numbers whose product a long would wrap to one that looks lawful. */
-    private static void farBeyond() {
-        TermRows x = new TermRows();
-        x.fraction(0, 1000, 1);
-        x.fraction(1, 9999, 1);
-        x.fraction(2, 1845, 1);
-        x.join(3, 2, 0, 0);
-        x.join(4, 2, 1, 2);
-        x.single(5, 4, 0, 1, 1, 0);
-        x.single(6, 3, 1, -77, 0, 1);
-        x.join(7, 0, 6, 5);
-        x.single(8, 7, 0, 1, 1, 0);
-        x.join(9, 0, 3, 8);
-        terms("great terms", x, 9, 1000000, 999923, 18448155);
-        Check.due("within", 999923000001L, x.convergent(9, 1, false));
-        Check.due("far beyond above", -1, x.convergent(9, 2, false));
-        Check.due("far beyond above, none below", -1, x.convergent(9, 2, true));
-        Check.due("far beyond when it reads", -1000000000L, x.would(9, 1, 0, 0, 1, 0));
-        Check.due("far beyond when it reads", 0, x.would(9, 0, 0, 0, 1, 0));
     }
 
     private static void term() {
@@ -656,7 +616,7 @@ public final class PromisesTest {
         x.fraction(2, 1, 2);
         x.join(3, 0, 2, 0);
         // x is 0, 2, its end; y 1, 2, 2, ..: turns x y x y x, then y alone: 1.9142.. is 1, 1, 10, ..
-        terms("a half and the root of 2", x, 3, firstOf(x, 3));
+        Edges.terms("a half and the root of 2", x, 3, firstOf(x, 3));
         Check.due("first of x", 2, x.read(3, 0, false));
         Check.due("first of y", 3, x.read(3, 0, true));
         Check.due("later of x", 2, x.read(3, 5, false));
