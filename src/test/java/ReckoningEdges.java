@@ -356,7 +356,7 @@ final class ReckoningEdges {
     }
 
     private static void stuck(Sentences doc) {
-        // No run of calls comes to 100: a SINGLE has 60 TERMS to READ at most, and what a DOUBLE has READ
+        // No run of calls comes to 100, it seems: a SINGLE has 60 TERMS to READ at most, and what a DOUBLE has READ
         // of two rows multiplies its numbers at least as the golden number does, which is beyond ahead of 100.
         doc.terms("They are STUCK, if they have READ 100 TERMS since the latest one LET OUT (or the beginning), and neither are SURE nor END;", () -> {
             TermRows less = joined(1, GOLDEN, GOLDEN);
